@@ -57,7 +57,7 @@ public final class PlanarityTester {
         if (now.joins(a, b)) {
             return NOT_POSSIBLE;
         }
-        history.record(now);
+        history.remember(now);
         now.flip(a, b);
         return now.size();
     }
@@ -66,14 +66,14 @@ public final class PlanarityTester {
         if (!now.joins(a, b)) {
             return NO_SUCH;
         }
-        history.record(now);
+        history.remember(now);
         now.flip(a, b);
         return now.size();
     }
 
     public int clear() {
         int all = now.size();
-        history.record(now);
+        history.remember(now);
         now.removeAll();
         return all;
     }
@@ -82,7 +82,7 @@ public final class PlanarityTester {
         if (!plan.read(now.edges())) {
             return NOT_POSSIBLE;
         }
-        history.record(now);
+        history.remember(now);
         int before = now.size();
         for (int a = 0; a < VERTICES; a++) {
             for (int b = a + 1; b < VERTICES; b++) {
@@ -118,7 +118,7 @@ public final class PlanarityTester {
         if (fault != NONE) {
             return FAULT_BASE - fault;
         }
-        history.record(now);
+        history.remember(now);
         int done = 0;
         for (int i = 0; i < MAX_EDITS && i < text.edits(); i++) {
             if (carryOut(text.kindOf(i), text.firstOf(i), text.secondOf(i))) {
@@ -144,7 +144,7 @@ public final class PlanarityTester {
         if (!snapshotTaken) {
             return NOT_POSSIBLE;
         }
-        history.record(now);
+        history.remember(now);
         now.become(snapshot.edges(), snapshot.added(), snapshot.dropped());
         return now.size();
     }
@@ -450,7 +450,7 @@ public final class PlanarityTester {
             return size;
         }
 
-        void record(State state) {
+        void remember(State state) {
             if (size >= MAX_HISTORY) {
                 forgetOldest();
             }
@@ -740,8 +740,8 @@ public final class PlanarityTester {
             for (int a = 0; a < VERTICES; a++) {
                 for (int b = a + 1; b < VERTICES; b++) {
                     int ends = bit(a) | bit(b);
-                    boolean open = has(at(near, a), b) && !has(at(joined, a), b);
-                    if (open && (ends & seen) == 0) {
+                    boolean unplaced = has(at(near, a), b) && !has(at(joined, a), b);
+                    if (unplaced && (ends & seen) == 0) {
                         int component = reach(near, ends & free, free);
                         int touched = component == 0 ? ends : around(near, component) & placed;
                         seen |= component;

@@ -85,6 +85,16 @@ public final class EmbeddingTests {
         Checks.dueWalk(x, 3, 1, 2, 4);
     }
 
+    private static void facesThatFit() {
+        // The edge 2-3 fits neither the face 0, 1, 2 nor the face 0, 1, 3, which have one end each.
+        PlanarityTester x = Checks.completeGraph(0, 3);
+        Checks.dueBlock(x, 0, 15, 6, 1, 4, 6);
+        Checks.dueOrder(x, 0, 1, 2, 3);
+        Checks.dueOrder(x, 1, 0, 3, 2);
+        Checks.dueOrder(x, 2, 0, 1, 3);
+        Checks.dueOrder(x, 3, 0, 2, 1);
+    }
+
     private static void orderOfFragments() {
         // The fragment of 1 has the least edge 1-3, and the contacts 3 and 5; the fragment of 4 has
         // the least edge 2-4, and the contacts 2 and 3.
@@ -92,6 +102,11 @@ public final class EmbeddingTests {
         Checks.dueOrder(x, 2, 0, 3, 4);
         Checks.dueOrder(x, 3, 1, 5, 4, 2);
         Checks.dueOrder(x, 5, 0, 3, 1);
+        // The fragments of 3 and 4 have the least edges 0-3 and 0-4, and then 2-3 and 1-4.
+        x = Checks.withEdges(0, 1, 0, 2, 1, 2, 0, 3, 2, 3, 0, 4, 1, 4);
+        Checks.dueOrder(x, 0, 1, 2, 3, 4);
+        Checks.dueOrder(x, 1, 0, 4, 2);
+        Checks.dueOrder(x, 2, 0, 1, 3);
     }
 
     private static void noFaceFits() {
@@ -262,6 +277,44 @@ public final class EmbeddingTests {
         Checks.dueWalk(x, 3, 8, 9);
     }
 
+    private static void orderOfDarts() {
+        PlanarityTester x = Checks.completeGraph(0, 3);
+        Checks.due("walkOf(0, 1)", x.walkOf(0, 1), 0);
+        Checks.due("walkOf(0, 2)", x.walkOf(0, 2), 1);
+        Checks.due("walkOf(0, 3)", x.walkOf(0, 3), 2);
+        Checks.due("walkOf(1, 0) belongs to the second walk", x.walkOf(1, 0), 1);
+        Checks.due("walkOf(1, 2)", x.walkOf(1, 2), 3);
+        x = Checks.withEdges(0, 9, 1, 2);
+        Checks.due("walkOf(9, 0)", x.walkOf(9, 0), 0);
+        Checks.due("walkOf(1, 2)", x.walkOf(1, 2), 1);
+    }
+
+    private static void eachDartInOneWalk() {
+        dueDarts(Checks.withEdges(0, 1, 1, 2, 2, 0, 2, 3, 3, 4, 4, 5, 5, 3, 6, 7, 9, 3), 18);
+        PlanarityTester x = new PlanarityTester();
+        x.complete();
+        dueDarts(x, 48);
+        for (int v = 1; v < 10; v++) {
+            x.drop(0, v);
+            dueDarts(x, 48 - 2 * v);
+        }
+        x.clear();
+        dueDarts(x, 0);
+    }
+
+    private static void dueDarts(PlanarityTester x, int want) {
+        int darts = 0;
+        for (int walk = 0; walk < x.walks(); walk++) {
+            darts += x.walkLength(walk);
+            for (int place = 0; place < x.walkLength(walk); place++) {
+                int v = x.walkVertex(walk, place);
+                int w = x.walkVertex(walk, (place + 1) % x.walkLength(walk));
+                Checks.due("walkOf(" + v + ", " + w + ")", x.walkOf(v, w), walk);
+            }
+        }
+        Checks.due("darts of all walks", darts, want);
+    }
+
     private static void walkFromLeastDart() {
         // The walk meets 1 twice; it begins with the dart to 0.
         PlanarityTester x = Checks.withEdges(1, 9, 1, 2, 2, 3, 3, 1);
@@ -362,6 +415,8 @@ public final class EmbeddingTests {
                 + " vertices, or it consists of a component", EmbeddingTests::fragmentsOfBothKinds);
         Checks.sentence("The contacts of a fragment are its placed vertices (the ends of its edges).",
                 EmbeddingTests::contactsOfFragments);
+        Checks.sentence("A face fits a fragment if the face contains all contacts of the fragment.",
+                EmbeddingTests::facesThatFit);
         Checks.sentence("Fragments are ordered by their least edges.",
                 EmbeddingTests::orderOfFragments);
         Checks.sentence("If some fragment fits no face, the block is not planar, and the embedding"
@@ -402,6 +457,11 @@ public final class EmbeddingTests {
                 EmbeddingTests::darts);
         Checks.sentence("Walks are numbered from 0 in the order of their least darts;",
                 EmbeddingTests::numbersOfWalks);
+        Checks.sentence("of two darts the one with the lesser first vertex is the lesser one, and of"
+                + " two with the same first vertex the one with the lesser second vertex.",
+                EmbeddingTests::orderOfDarts);
+        Checks.sentence("In this way the darts are divided into cycles, which are called walks.",
+                EmbeddingTests::eachDartInOneWalk);
         Checks.sentence("A walk is written as the sequence of the first vertices of its darts,"
                 + " beginning with its least dart.", EmbeddingTests::walkFromLeastDart);
     }

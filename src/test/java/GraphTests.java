@@ -147,6 +147,8 @@ public final class GraphTests {
         Checks.due("cut vertices with four blocks at one vertex", x.count(3), 1);
         x.add(5, 9);
         Checks.due("cut vertices with one more", x.count(3), 2);
+        x = Checks.withEdges(0, 5, 1, 2, 5, 6);
+        Checks.due("cut vertices of the first and the last block", x.count(3), 1);
     }
 
     private static void bridges() {

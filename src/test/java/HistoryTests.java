@@ -96,6 +96,45 @@ public final class HistoryTests {
         Checks.dueCounts(x, 24, 1, 1, 0, 0, 24, 0, 2, 16);
     }
 
+    /** An object that has held other edges answers as one that has not. */
+    private static void edgesAlone() {
+        PlanarityTester used = new PlanarityTester();
+        for (int first = 0; first < 10; first++) {
+            for (int last = 9; last > first; last -= 2) {
+                used.clear();
+                Checks.join(used, first, last);
+                Checks.graphAnswers(used);
+                used.drop(first, last);
+                PlanarityTester other = Checks.completeGraph(first, last);
+                other.drop(first, last);
+                if (!Checks.graphAnswers(used).equals(Checks.graphAnswers(other))) {
+                    Checks.fail("the answers for " + first + " to " + last + " differ");
+                }
+            }
+        }
+    }
+
+    private static void fewerFacesThanBefore() {
+        PlanarityTester used = new PlanarityTester();
+        used.complete();
+        for (int v = 0; v < 10; v++) {
+            PlanarityTester other = new PlanarityTester();
+            for (int w = 0; w < 10; w++) {
+                used.drop(v, w);
+            }
+            for (int a = 0; a < 10; a++) {
+                for (int b = 0; b < a; b++) {
+                    if ((used.neighbors(a) >> b & 1) != 0) {
+                        other.add(a, b);
+                    }
+                }
+            }
+            if (!Checks.graphAnswers(used).equals(Checks.graphAnswers(other))) {
+                Checks.fail("the answers behind the drops from " + v + " differ");
+            }
+        }
+    }
+
     /** One row each: an action that changes nothing of the edges. */
     private static void actionsThatChangeNothing() {
         PlanarityTester x = new PlanarityTester();
@@ -204,6 +243,16 @@ public final class HistoryTests {
         Checks.due("count(0)", x.count(0), 0);
     }
 
+    private static void latestStateIsRemoved() {
+        PlanarityTester x = new PlanarityTester();
+        Checks.addAll(x, 0, 1, 0, 2, 0, 3);
+        for (int left = 2; left >= 0; left--) {
+            Checks.due("undo()", x.undo(), left);
+            Checks.due("count(0)", x.count(0), left);
+            Checks.due("count(7)", x.count(7), left);
+        }
+    }
+
     private static void save() {
         PlanarityTester x = new PlanarityTester();
         Checks.due("save() of no edges", x.save(), 0);
@@ -281,6 +330,8 @@ public final class HistoryTests {
                 HistoryTests::actions);
         Checks.sentence("The state consists of the edges, and of the number of edges added and of"
                 + " edges dropped so far.", HistoryTests::numbersOfState);
+        Checks.sentence("The state consists of the edges", HistoryTests::edgesAlone);
+        Checks.sentence("The state consists of the edges", HistoryTests::fewerFacesThanBefore);
         Checks.sentence("Each action that returns no error code records the state before it in the"
                 + " history, even if the action changes nothing.",
                 HistoryTests::actionsThatChangeNothing);
@@ -298,6 +349,9 @@ public final class HistoryTests {
                 HistoryTests::numbersReturned);
         Checks.sentence("Returns the number of states that are left in the history; NONE if the"
                 + " history is empty.", HistoryTests::undo);
+        Checks.sentence("Restores the latest state of the history and removes it from the history.",
+                HistoryTests::latestStateIsRemoved);
+        Checks.sentence("The text and the snapshot do not change.", HistoryTests::notPartOfTheState);
         Checks.sentence("Takes a snapshot of the state, which replaces the previous snapshot. This is"
                 + " not an action.", HistoryTests::save);
         Checks.sentence("Restores the state of the snapshot. The snapshot remains.",

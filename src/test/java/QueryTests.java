@@ -74,6 +74,15 @@ public final class QueryTests {
         Checks.due("complete() of K10", Checks.completeGraph(0, 9).complete(), NOT_POSSIBLE);
     }
 
+    private static void pairsFromTheLeastOn() {
+        PlanarityTester x = Checks.withEdges(3, 4, 3, 5, 3, 6, 4, 5, 4, 6, 5, 6);
+        // The vertex 0 comes first and takes the face 3, 4, 5; then 1 takes the face 0, 3, 4.
+        Checks.due("complete()", x.complete(), 18);
+        Checks.due("neighbors(0)", x.neighbors(0), 2 | 4 | 8 | 16 | 32 | 128 | 256 | 512);
+        Checks.due("block(0, 6)", x.block(0, 6), NO_SUCH);
+        Checks.due("neighbors(1) begins with 0, 2, 3, 4", x.neighbors(1) & 127, 29);
+    }
+
     private static void neighbors() {
         PlanarityTester x = Checks.completeGraph(0, 9);
         for (int v = 0; v < 10; v++) {
@@ -195,6 +204,11 @@ public final class QueryTests {
         Checks.due("walks() of a triangle", Checks.completeGraph(4, 6).walks(), 2);
         Checks.due("walks() of 24 edges", largestPlanar().walks(), 16);
         Checks.due("walks() of K5", Checks.completeGraph(0, 4).walks(), NOT_POSSIBLE);
+        PlanarityTester x = Checks.withEdges(0, 1, 2, 3);
+        Checks.due("walks() of two edges", x.walks(), 2);
+        x.clear();
+        Checks.due("walks() behind clear()", x.walks(), 0);
+        Checks.due("walkLength(0) behind clear()", x.walkLength(0), NO_SUCH);
     }
 
     private static void walkLength() {
@@ -340,6 +354,9 @@ public final class QueryTests {
                 + " vertex, or no edge between both.", QueryTests::drop);
         Checks.sentence("Returns the number of edges that are added; NOT_POSSIBLE if the graph is not"
                 + " planar.", QueryTests::complete);
+        Checks.sentence("all pairs of different vertices without an edge are looked at once, from the"
+                + " least to the greatest (as edges); each is added as an edge if the graph is planar"
+                + " with it.", QueryTests::pairsFromTheLeastOn);
         Checks.sentence("Returns the neighbors, as a bit mask in which bit k stands for the vertex k;"
                 + " NO_SUCH if there is no such vertex.", QueryTests::neighbors);
         Checks.sentence("Returns the number; BAD_VALUE if what is out of range.", QueryTests::count);

@@ -181,6 +181,13 @@ public final class TextTests {
         Checks.write(x, "add 8-9;flip 0-1;flip 5-6");
         Checks.due("run() of a graph that is not planar", x.run(), 3);
         Checks.due("planar()", x.planar(), 1);
+        StringBuilder ten = new StringBuilder("add 1-9");
+        for (int v = 1; v < 10; v++) {
+            ten.append(";add 0-").append(v);
+        }
+        x = Checks.withText(ten.toString());
+        Checks.due("run() of ten edits", x.run(), 10);
+        Checks.due("neighbors(0) has the last one", x.neighbors(0), 1022);
     }
 
     private static void skippedEdits() {

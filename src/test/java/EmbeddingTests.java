@@ -183,6 +183,76 @@ public final class EmbeddingTests {
         Checks.due("blockInfo(0, 3)", x.blockInfo(0, 3), 5);
     }
 
+    private static void bothPartsOfTheFace() {
+        // 0-6-7-3 goes into the face 0, 1, 2, 3, 4, 5, and 0-8-9-3 into 0, 1, 2, 3, 7, 6.
+        PlanarityTester x = Checks.withEdges(0, 1, 1, 2, 2, 3, 3, 4, 4, 5, 5, 0, 0, 6, 6, 7, 7, 3,
+                0, 8, 8, 9, 9, 3);
+        Checks.dueBlock(x, 0, 1023, 12, 1, 4, 12);
+        Checks.dueWalk(x, 0, 0, 1, 2, 3, 9, 8);
+        Checks.dueWalk(x, 1, 0, 5, 4, 3, 2, 1);
+        Checks.dueWalk(x, 2, 0, 6, 7, 3, 4, 5);
+        Checks.dueWalk(x, 3, 0, 8, 9, 3, 7, 6);
+        Checks.dueOrder(x, 0, 1, 5, 6, 8);
+        Checks.dueOrder(x, 3, 2, 9, 7, 4);
+    }
+
+    private static void drawnWithoutCrossings() {
+        // With six vertices, only K3,3 and K5 can not be drawn, with an edge of K5 divided or not.
+        for (int graph = 0; graph < 1 << 15; graph++) {
+            int[] near = new int[6];
+            PlanarityTester x = new PlanarityTester();
+            int pair = 0;
+            for (int a = 0; a < 6; a++) {
+                for (int b = a + 1; b < 6; b++) {
+                    if ((graph >> pair & 1) != 0) {
+                        x.add(a, b);
+                        near[a] |= 1 << b;
+                        near[b] |= 1 << a;
+                    }
+                    pair++;
+                }
+            }
+            boolean drawn = !holdsThreeByThree(near) && !holdsFive(near);
+            if (x.planar() != (drawn ? 1 : 0)) {
+                Checks.fail("planar() of the graph " + Integer.toBinaryString(graph));
+            }
+        }
+    }
+
+    private static boolean holdsThreeByThree(int[] near) {
+        for (int part = 0; part < 64; part++) {
+            boolean joined = Integer.bitCount(part) == 3;
+            for (int v = 0; v < 6; v++) {
+                int others = 63 & ~part;
+                joined &= (part >> v & 1) == 0 || (near[v] & others) == others;
+            }
+            if (joined) {
+                return true;
+            }
+        }
+        return false;
+    }
+
+    /** Whether five vertices are joined, or would be if the way by the sixth one joins two. */
+    private static boolean holdsFive(int[] near) {
+        for (int sixth = 0; sixth < 6; sixth++) {
+            int missing = 0;
+            boolean byTheSixth = true;
+            for (int a = 0; a < 6; a++) {
+                for (int b = a + 1; b < 6; b++) {
+                    if (a != sixth && b != sixth && (near[a] >> b & 1) == 0) {
+                        missing++;
+                        byTheSixth = (near[sixth] >> a & near[sixth] >> b & 1) != 0;
+                    }
+                }
+            }
+            if (missing == 0 || (missing == 1 && byTheSixth)) {
+                return true;
+            }
+        }
+        return false;
+    }
+
     private static void planarBlocks() {
         PlanarityTester x = Checks.completeGraph(0, 4);
         Checks.due("blockInfo(0, 2) of K5", x.blockInfo(0, 2), 0);
@@ -225,6 +295,32 @@ public final class EmbeddingTests {
             }
             Checks.due("all that is behind a neighbor of " + v, behind, x.neighbors(v));
         }
+    }
+
+    private static void walksAreTheFaces() {
+        PlanarityTester x = Checks.completeGraph(0, 3);
+        Checks.due("walks() of K4", x.walks(), x.blockInfo(0, 3));
+        for (int v = 4; v <= 9; v++) {
+            Checks.addAll(x, v, v - 1, v, v - 2, v, v - 3);
+            Checks.due("blockInfo(0, 3) up to " + v, x.blockInfo(0, 3), 2 * v - 2);
+            Checks.due("walks() up to " + v, x.walks(), 2 * v - 2);
+            for (int walk = 0; walk < x.walks(); walk++) {
+                Checks.due("walkLength(" + walk + ")", x.walkLength(walk), 3);
+            }
+        }
+        // In a walk x, v, y the neighbor behind x around v is y, and not the other way round.
+        x = Checks.completeGraph(0, 3);
+        Checks.dueWalk(x, 0, 0, 1, 3);
+        Checks.due("next(1, 0)", x.next(1, 0), 3);
+        Checks.due("next(1, 3)", x.next(1, 3), 2);
+    }
+
+    private static void allNeighborsInTheOrder() {
+        PlanarityTester x = Checks.withEdges(5, 0, 5, 1, 0, 1, 5, 2, 5, 3, 5, 4, 3, 4, 5, 6, 6, 7, 7, 5,
+                6, 8, 8, 5);
+        Checks.dueOrder(x, 5, 0, 1, 2, 3, 4, 6, 7, 8);
+        Checks.dueOrder(x, 6, 5, 8, 7);
+        Checks.due("next(5, 9)", x.next(5, 9), Checks.NO_SUCH);
     }
 
     private static void blocksAroundVertex() {
@@ -352,6 +448,38 @@ public final class EmbeddingTests {
         }
     }
 
+    private static void edgesThatAreLeft() {
+        PlanarityTester[] graphs = {Checks.completeGraph(0, 9), Checks.completeGraph(2, 8),
+            threeByThree(), book(9)};
+        graphs[1].drop(7, 8);
+        Checks.join(graphs[2], 5, 8);
+        Checks.addAll(graphs[3], 2, 3, 3, 4, 4, 5, 5, 6, 6, 7, 7, 8, 8, 9, 9, 2);
+        for (PlanarityTester x : graphs) {
+            PlanarityTester left = new PlanarityTester();
+            for (int a = 0; a < 10; a++) {
+                for (int b = a + 1; b < 10; b++) {
+                    if (x.inForbidden(a, b) == 1) {
+                        left.add(a, b);
+                    }
+                }
+            }
+            Checks.due("forbidden(0)", x.forbidden(0), left.count(0));
+            Checks.due("planar() of what is left", left.planar(), 0);
+            dueToNeedEachEdge(left);
+        }
+    }
+
+    private static void dueToNeedEachEdge(PlanarityTester x) {
+        for (int a = 0; a < 10; a++) {
+            for (int b = a + 1; b < 10; b++) {
+                if (x.block(a, b) >= 0) {
+                    Checks.due("ifFlipped(" + a + ", " + b + ")", x.ifFlipped(a, b), 1);
+                    Checks.due("inForbidden(" + a + ", " + b + ")", x.inForbidden(a, b), 1);
+                }
+            }
+        }
+    }
+
     private static void branchVertices() {
         PlanarityTester x = threeByThree();
         x.drop(0, 3);
@@ -436,6 +564,11 @@ public final class EmbeddingTests {
         Checks.sentence("(k is 0 if it is a single edge)", EmbeddingTests::singleEdgePath);
         Checks.sentence("gets the least number that no face has, that is, the number of faces.",
                 EmbeddingTests::numbersOfFaces);
+        Checks.sentence("It is replaced, under its number, by the face u, x1, ..., xi, w, pk, ..., p1."
+                + " A new face w, y1, ..., yj, u, p1, ..., pk gets the least number that no face has",
+                EmbeddingTests::bothPartsOfTheFace);
+        Checks.sentence("(This holds if and only if the block can be drawn in the plane without"
+                + " crossings.)", EmbeddingTests::drawnWithoutCrossings);
         Checks.sentence("A block is planar if it is embedded in this way up to its last edge.",
                 EmbeddingTests::planarBlocks);
         Checks.sentence("The graph is planar if all blocks are planar.",
@@ -443,6 +576,11 @@ public final class EmbeddingTests {
     }
 
     private static void orders() {
+        Checks.sentence("the successor of the neighbor x at a vertex v is the neighbor y such that"
+                + " x, v, y are consecutive, in this order, in some face.",
+                EmbeddingTests::walksAreTheFaces);
+        Checks.sentence("the order around a vertex v is the following cyclic sequence of all its"
+                + " neighbors:", EmbeddingTests::allNeighborsInTheOrder);
         Checks.sentence("(There is exactly one such y for each neighbor x of v in the block.)",
                 EmbeddingTests::exactlyOneSuccessor);
         Checks.sentence("In a block with one edge, the successor of the only neighbor is that"
@@ -471,6 +609,8 @@ public final class EmbeddingTests {
                 EmbeddingTests::edgesLookedAtOnce);
         Checks.sentence("each edge is removed if what is left without it is still not planar.",
                 EmbeddingTests::removedOnlyIfStillNotPlanar);
+        Checks.sentence("The edges that are left are the forbidden subgraph.",
+                EmbeddingTests::edgesThatAreLeft);
         Checks.sentence("Its branch vertices are the vertices that belong to more than two of its"
                 + " edges.", EmbeddingTests::branchVertices);
         Checks.sentence("(There are 5 branch vertices, each with 4 edges, or 6, each with 3 edges.)",

@@ -5,7 +5,6 @@ import java.lang.reflect.Method;
 import java.lang.reflect.Modifier;
 import java.nio.file.Files;
 import java.nio.file.Path;
-import java.util.Arrays;
 import java.util.Set;
 import java.util.TreeSet;
 import java.util.regex.Matcher;
@@ -13,40 +12,6 @@ import java.util.regex.Pattern;
 
 /** The public face as the document gives it, and rules of LANGUAGE.md that a text search can see. */
 public final class FaceTest {
-    private static final String[] FACE = {
-        "public static final int BAD_VALUE",
-        "public static final int NONE",
-        "public static final int NOT_POSSIBLE",
-        "public static final int NO_SUCH",
-        "public static final int TOO_MANY",
-        "public PlanarityTester()",
-        "public int add(int,int)",
-        "public int append(int)",
-        "public int block(int,int)",
-        "public int blockInfo(int,int)",
-        "public int clear()",
-        "public int clearText()",
-        "public int complete()",
-        "public int count(int)",
-        "public double density()",
-        "public int drop(int,int)",
-        "public int fault()",
-        "public int forbidden(int)",
-        "public int ifFlipped(int,int)",
-        "public int inForbidden(int,int)",
-        "public int joinable(int)",
-        "public int neighbors(int)",
-        "public int next(int,int)",
-        "public int planar()",
-        "public int restore()",
-        "public int run()",
-        "public int save()",
-        "public int undo()",
-        "public int walkLength(int)",
-        "public int walkOf(int,int)",
-        "public int walkVertex(int,int)",
-        "public int walks()",
-    };
     private static final String[] FORBIDDEN_WORDS = {"import", "package", "try", "catch", "finally",
         "throw", "throws", "synchronized", "assert", "instanceof", "native", "volatile",
         "transient", "System", "Thread", "Object", "NaN", "equals", "hashCode", "toString"};
@@ -68,13 +33,39 @@ public final class FaceTest {
         return names.toString();
     }
 
-    private static void checkFace() {
+    /** The members in the document's section on the public face, written as name does it. */
+    private static Set<String> faceOfTheDocument() throws IOException {
+        String document = Files.readString(Path.of("../shared/DOC.md"));
+        Matcher section = Pattern.compile("(?s)## The public face\\s+```java\n(.*?)```")
+                .matcher(document);
+        Set<String> found = new TreeSet<>();
+        if (section.find()) {
+            for (String line : section.group(1).split("\n")) {
+                if (line.startsWith("    public ")) {
+                    String member = line.trim().replace(";", "");
+                    found.add(member.replaceAll("(int|double) \\w+(?=[,)])", "$1").replace(", ", ","));
+                }
+            }
+        }
+        return found;
+    }
+
+    private static String constant(Field field) {
+        try {
+            return " = " + field.getInt(null);
+        } catch (IllegalAccessException | IllegalArgumentException e) {
+            return " is no constant";
+        }
+    }
+
+    private static void checkFace() throws IOException {
         Set<String> found = new TreeSet<>();
         Set<String> publicNames = new TreeSet<>();
         for (Field field : PlanarityTester.class.getDeclaredFields()) {
             if (!Modifier.isPrivate(field.getModifiers())) {
                 found.add(Modifier.toString(field.getModifiers()) + " "
-                        + field.getType().getSimpleName() + " " + field.getName());
+                        + field.getType().getSimpleName() + " " + field.getName()
+                        + constant(field));
             } else if (Modifier.isStatic(field.getModifiers())
                     && !Modifier.isFinal(field.getModifiers())) {
                 fail("a static field that is not final: " + field.getName());
@@ -92,7 +83,7 @@ public final class FaceTest {
                         + name(method.getParameterTypes()) + ")");
             }
         }
-        Set<String> wanted = new TreeSet<>(Arrays.asList(FACE));
+        Set<String> wanted = faceOfTheDocument();
         if (!found.equals(wanted)) {
             fail("the face is " + found + ", due is " + wanted);
         }
